@@ -1298,6 +1298,8 @@ public final class NoteHouse {
         final int[] made = new int[PAPERS];
         final boolean[] turnedAway = new boolean[PAPERS];
         int used;
+        // No number from here on was ever used: a day looks no further.
+        int end;
 
         Papers() {
             for (int i = 0; i < PAPERS; i++) {
@@ -1321,6 +1323,7 @@ public final class NoteHouse {
             copyAll(other.byTrade, byTrade);
             copyAll(other.made, made);
             used = other.used;
+            end = other.end;
         }
 
         boolean isPaper(int paper) {
@@ -1350,6 +1353,7 @@ public final class NoteHouse {
                     byTrade[i] = 0;
                     made[i] = NONE;
                     used++;
+                    end = Math.max(end, i + 1);
                     return i;
                 }
             }
@@ -1373,7 +1377,7 @@ public final class NoteHouse {
         }
 
         void killThoseOf(int house) {
-            for (int i = 0; i < PAPERS; i++) {
+            for (int i = 0; i < end; i++) {
                 if (state[i] == LIVE && debtor[i] == house && kind[i] != BILL) {
                     state[i] = DEAD;
                     if (kind[i] == PLEDGE) {
@@ -1385,7 +1389,7 @@ public final class NoteHouse {
 
         int heldBy(int house) {
             int n = 0;
-            for (int i = 0; i < PAPERS; i++) {
+            for (int i = 0; i < end; i++) {
                 n += kind[i] != NONE && holder[i] == house ? 1 : 0;
             }
             return n;
@@ -1393,7 +1397,7 @@ public final class NoteHouse {
 
         int owedBy(int house) {
             int n = 0;
-            for (int i = 0; i < PAPERS; i++) {
+            for (int i = 0; i < end; i++) {
                 n += kind[i] != NONE && debtor[i] == house ? 1 : 0;
             }
             return n;
@@ -1410,7 +1414,7 @@ public final class NoteHouse {
 
         int nextToSell(int house, int day) {
             int next = NONE;
-            for (int i = 0; i < PAPERS; i++) {
+            for (int i = 0; i < end; i++) {
                 if (holder[i] == house && !turnedAway[i] && maySell(i, day)
                         && (next == NONE || due[i] < due[next])) {
                     next = i;
@@ -1420,7 +1424,7 @@ public final class NoteHouse {
         }
 
         void forgetTurnedAway() {
-            for (int i = 0; i < PAPERS; i++) {
+            for (int i = 0; i < end; i++) {
                 turnedAway[i] = false;
             }
         }
@@ -2209,7 +2213,7 @@ public final class NoteHouse {
         }
 
         private void payDue() {
-            for (int i = 0; i < PAPERS; i++) {
+            for (int i = 0; i < papers.end; i++) {
                 if (papers.state[i] == LIVE && papers.due[i] == day) {
                     settle(i);
                 }
@@ -2217,7 +2221,7 @@ public final class NoteHouse {
         }
 
         private void askNames() {
-            for (int i = 0; i < PAPERS; i++) {
+            for (int i = 0; i < papers.end; i++) {
                 if (papers.state[i] == PROTESTED && papers.askDay[i] == day) {
                     askName(i);
                 }
@@ -2232,7 +2236,7 @@ public final class NoteHouse {
                 }
                 papers.forgetTurnedAway();
                 int bill = papers.nextToSell(house, day);
-                for (int i = 0; i < PAPERS && bill != NONE; i++) {
+                for (int i = 0; i < papers.end && bill != NONE; i++) {
                     papers.turnedAway[bill] = offer(bill) == 0;
                     bill = coin(house) < houses.min[house] ? papers.nextToSell(house, day) : NONE;
                 }
@@ -2258,7 +2262,7 @@ public final class NoteHouse {
         }
 
         private void askDepositsOf(int house) {
-            for (int i = 0; i < PAPERS; i++) {
+            for (int i = 0; i < papers.end; i++) {
                 if (papers.kind[i] == DEPOSIT && papers.state[i] == LIVE
                         && papers.holder[i] == house) {
                     askDeposit(i);
@@ -2288,7 +2292,7 @@ public final class NoteHouse {
             int show = lawSays(LAW_SHOW, NONE);
             int bills = 0;
             int lent = 0;
-            for (int i = 0; i < PAPERS; i++) {
+            for (int i = 0; i < papers.end; i++) {
                 if (papers.state[i] == LIVE && papers.holder[i] == THE_BANK) {
                     boolean isPledge = papers.kind[i] == PLEDGE;
                     if (isPledge && day - papers.made[i] > hide) {
@@ -2339,7 +2343,7 @@ public final class NoteHouse {
                 deposits[house] = 0;
                 others[house] = 0;
             }
-            for (int i = 0; i < PAPERS; i++) {
+            for (int i = 0; i < papers.end; i++) {
                 share[i] = 0;
                 if (papers.kind[i] == NONE) {
                     continue;
@@ -2358,7 +2362,7 @@ public final class NoteHouse {
         private boolean improve(World world) {
             Papers papers = world.papers;
             boolean changes = false;
-            for (int i = 0; i < PAPERS; i++) {
+            for (int i = 0; i < papers.end; i++) {
                 if (papers.kind[i] != NONE && !world.houses.isUp(papers.debtor[i])) {
                     int now = shareOf(papers, i);
                     if (now != share[i]) {
