@@ -46,6 +46,7 @@ final class DayTests {
         protests();
         selling();
         runs();
+        least();
         sheets();
         PromiseTest.promise(45, "count", """
                 town() 1
@@ -294,6 +295,18 @@ final class DayTests {
                 count(12) 5
                 look(2, 7) 30
                 """);
+        PromiseTest.promise(42, "run, selling, till COIN is MIN", PaperTests.FOUR + """
+                gold(0, 100) 100
+                mind(2, 50, 0) 0
+                bill(1, 2, 20, 40) 0
+                bill(1, 2, 30, 30) 1
+                bill(1, 2, 40, 50) 2
+                run(2) 0
+                of(1, 3) 0
+                of(0, 3) 0
+                of(2, 3) 2                   # 50 isn't below 50
+                look(2, 7) 50
+                """);
         PromiseTest.promise(42, "run, selling, each refused once a day", PaperTests.FOUR + """
                 mind(2, 50, 0) 0
                 mind(1, 50, 3) 0
@@ -421,6 +434,44 @@ final class DayTests {
                 look(1, 2) 20
                 look(2, 3) 3                 # behind that none
                 count(14) 14
+                """);
+    }
+
+    private static void least() {
+        PromiseTest.promise(42, "run, notes are presented, the least CARE", """
+                house(0, 0) 1
+                gold(0, 100) 100
+                give(0, 1, 100) 100
+                gold(0, 5) 105
+                bold(1, 1) 9000
+                flow(10) 0
+                tell(1, 0, 15) -1
+                run(7) 0
+                look(0, 2) 5
+                sheet(0, 5) 5
+                run(1) 0
+                look(1, 3) 10                # 5 isn't below 1
+                count(14) -1
+                give(0, 1, 5) 0
+                run(6) 0
+                sheet(1, 5) 0
+                count(14) 13
+                """);
+        PromiseTest.promise(42, "run, notes are presented, a RESERVE of 0", """
+                house(0, 0) 1
+                gold(0, 100) 100
+                give(0, 1, 100) 100
+                bold(1, 1) 9000
+                flow(10) 0
+                tell(1, 0, 15) -1
+                run(7) 0
+                sheet(0, 5) 0
+                count(14) -1
+                gold(0, 20) 20
+                run(1) 0
+                look(1, 3) 8                 # 0 is below 1
+                look(1, 2) 20
+                count(14) 7
                 """);
     }
 

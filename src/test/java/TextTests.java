@@ -139,6 +139,9 @@ final class TextTests {
         fault("Out 5", 0);
         fault("outs 5", 0);
         fault("ou 5", 0);
+        fault("outz 5", 0);
+        fault("z", 0);
+        fault("out 1 if (((((((1)))))))", 15);
         fault("out5x", 4);
         fault("out rate", 4);
         fault("out goldgold", 4);
@@ -174,6 +177,8 @@ final class TextTests {
                 text(0, 9) 3
                 tape out -1-1-1-1-1-1-1-1
                 text(0, 9) 4
+                tape out ((((((1)))))) if ((((((1))))))
+                text(0, 9) 5
                 tape out 5 +
                 feed(32, 1) 8
                 text(0, 9) -18

@@ -16,6 +16,7 @@ final class TryTests {
         plans();
         judges();
         images();
+        imagesOfNotesAndPledges();
         rows();
     }
 
@@ -333,6 +334,40 @@ final class TryTests {
                 says(1, -1) 6
                 give(1, 2, 10) 0
                 trail(1, 0, 2) 2
+                """);
+    }
+
+    private static void imagesOfNotesAndPledges() {
+        PromiseTest.promise(50, "back, the copy that came in last", NoteTests.FIVE_NOTES + """
+                give(1, 0, 10) 0             # number 0 is in, as its copy 0
+                forge(2, 0) 1
+                image() 0
+                give(0, 1, 10) 500
+                give(2, 0, 10) 0             # and now as its copy 1
+                copyAt(0, 1) 0
+                back() 0
+                copyAt(0, 1) 2
+                give(0, 1, 10) 500
+                copyAt(0, 0) 1
+                copyAt(0, 1) 2
+                """);
+        PromiseTest.promise(50, "back, the day of a pledge", PaperTests.FOUR + """
+                gold(0, 900) 900
+                tape lend 50
+                text(0, 99) 0
+                tape hide 4
+                text(0, 99) 1
+                bill(1, 2, 80, 50) 0
+                bill(1, 2, 90, 50) 1
+                help(0, 10) 2
+                image() 0
+                run(12) 0
+                of(2, 0) -3
+                help(1, 30) 2                # the same number, made on day 12
+                back() 0
+                run(7) 0
+                sheet(0, 2) 0
+                sheet(0, 3) 40               # made on day 0: hidden no more
                 """);
     }
 
