@@ -2014,7 +2014,7 @@ public final class NoteHouse {
         int presentCopies(int house, int n) {
             int came = 0;
             notes.findForged(house, day);
-            for (int i = 0; i < notes.copies && came < n && stopped == NONE; i++) {
+            for (int i = 0; i < notes.copies && notes.held[house] > 0 && came < n && stopped == NONE; i++) {
                 int copy = notes.order[i];
                 if (notes.holder[copy] != house) {
                     continue;
