@@ -9,7 +9,7 @@ public final class PromiseTest {
 
     static void promise(int number, String what, String lines) {
         TOLD.add(String.valueOf(number));
-        wrong += Script.play(number + " " + what, lines);
+        wrong += Script.play("promise " + number + " " + what, lines, 512);
         runs++;
     }
 

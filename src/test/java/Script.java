@@ -3,7 +3,8 @@ import java.util.List;
 
 /**
  * A run of calls on a new object, told in lines: "call(1, 2) 3" is a call and the answer that is due
- * ("?" where any is), "5 x call() 3" the same five times, "tape TEXT" wipes THE TAPE and feeds TEXT.
+ * ("?" where any is), "5 x call() 3" the same five times ("5 x call() 1.." counts up from 1),
+ * "tape TEXT" wipes THE TAPE and feeds TEXT.
  * Each run is played by the program and, so that both are held to it, by the Model.
  */
 final class Script {
@@ -17,14 +18,17 @@ final class Script {
         this.name = name;
     }
 
-    /** How many answers were wrong; each is printed. */
-    static int play(String name, String lines) {
+    /** How many answers were wrong; each is printed. A run of more calls than told is wrong, too. */
+    static int play(String name, String lines, int most) {
         Script s = new Script(name);
         for (String line : lines.split("\n")) {
             s.line(line.split("#")[0].strip());
         }
+        if (s.calls > most) {
+            s.wrong.add(name + ": " + s.calls + " calls are more than " + most);
+        }
         for (String w : s.wrong) {
-            System.out.println("promise " + w);
+            System.out.println(w);
         }
         return s.wrong.size();
     }
@@ -51,15 +55,24 @@ final class Script {
         for (int i = 0; i < parts.length; i++) {
             args[i] = Integer.parseInt(parts[i].strip());
         }
+        String due = line.substring(close + 1).strip();
+        int counts = due.indexOf("..");
         for (int i = 0; i < times; i++) {
-            call(line.substring(0, open), line.substring(close + 1).strip(), args);
+            String next = counts < 0 ? due : String.valueOf(Integer.parseInt(due.substring(0, counts)) + i);
+            call(line.substring(0, open), next, args);
         }
     }
 
     private void tape(String text) {
         call("wipe", "?");
-        for (int i = 0; i < text.length(); i++) {
-            call("feed", String.valueOf(i + 1), text.charAt(i), 1);
+        int had = 0;
+        for (int i = 0; i < text.length(); i += had) {
+            had = Math.min(4, text.length() - i);
+            int bytes = 0;
+            for (int k = i; k < i + had; k++) {
+                bytes = bytes << 8 | text.charAt(k);
+            }
+            call("feed", String.valueOf(i + had), bytes, had);
         }
     }
 
