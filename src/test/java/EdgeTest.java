@@ -30,6 +30,7 @@ public final class EdgeTest {
         EdgeLand.all();
         EdgeNotes.all();
         EdgePapers.all();
+        EdgeDown.all();
         System.out.println(runs + " runs of edges, " + wrong + " answers wrong");
         if (Files.exists(DOCUMENT)) {
             quotes(plain(Files.readString(DOCUMENT)), args.length > 0 && args[0].equals("rest"));
