@@ -31,6 +31,7 @@ public final class EdgeTest {
         EdgeNotes.all();
         EdgePapers.all();
         EdgeDown.all();
+        EdgeDays.all();
         System.out.println(runs + " runs of edges, " + wrong + " answers wrong");
         if (Files.exists(DOCUMENT)) {
             quotes(plain(Files.readString(DOCUMENT)), args.length > 0 && args[0].equals("rest"));
