@@ -33,6 +33,7 @@ public final class EdgeTest {
         EdgeDown.all();
         EdgeDays.all();
         EdgeWeeks.all();
+        EdgeTexts.all();
         System.out.println(runs + " runs of edges, " + wrong + " answers wrong");
         if (Files.exists(DOCUMENT)) {
             quotes(plain(Files.readString(DOCUMENT)), args.length > 0 && args[0].equals("rest"));
