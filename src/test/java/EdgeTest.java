@@ -35,6 +35,7 @@ public final class EdgeTest {
         EdgeWeeks.all();
         EdgeTexts.all();
         EdgeSays.all();
+        EdgeTries.all();
         System.out.println(runs + " runs of edges, " + wrong + " answers wrong");
         if (Files.exists(DOCUMENT)) {
             quotes(plain(Files.readString(DOCUMENT)), args.length > 0 && args[0].equals("rest"));
