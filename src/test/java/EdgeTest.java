@@ -36,6 +36,7 @@ public final class EdgeTest {
         EdgeTexts.all();
         EdgeSays.all();
         EdgeTries.all();
+        EdgeRows.all();
         System.out.println(runs + " runs of edges, " + wrong + " answers wrong");
         if (Files.exists(DOCUMENT)) {
             quotes(plain(Files.readString(DOCUMENT)), args.length > 0 && args[0].equals("rest"));
