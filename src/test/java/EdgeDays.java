@@ -242,6 +242,19 @@ final class EdgeDays {
                 look(2, 7) 69
                 count(12) 0
                 """);
+        EdgeTest.edge("as long as COIN is below MIN", PaperTests.FOUR + """
+                gold(0, 900) 900
+                bill(1, 2, 30, 50) 0
+                bill(1, 2, 30, 50) 1
+                bill(1, 2, 30, 50) 2
+                mind(2, 60, 0) 0
+                run(1) 0
+                of(1, 3) 0
+                of(2, 3) 2                   # 60 is not below 60
+                mind(2, 61, 0) 60
+                run(1) 0
+                of(2, 3) 0
+                """);
         EdgeTest.edge("as long as COIN is below MIN, and there is a BILL that it holds, that MAY be SOLD",
                 PaperTests.FOUR + """
                 gold(0, 900) 900
@@ -634,6 +647,23 @@ final class EdgeDays {
                 gold(0, 900) 900
                 run(9) 0
                 look(2, 3) 2                 # stopped: nothing is ever presented
+                """);
+        EdgeTest.edge("(if THE BANK isn't STOPPED)", PaperTests.FOUR + """
+                gold(0, 29) 29
+                tape lift 1
+                text(0, 99) 0
+                give(0, 1, 40) 29
+                give(0, 2, 10) 29
+                forge(2, 4) 1
+                bold(1, 999) 9000
+                bold(2, 999) 9000
+                run(8) 0
+                count(14) 7
+                look(1, 3) 2                 # 9 were too few for the third
+                look(2, 3) 2                 # 2 doesn't present any more: nothing is found
+                count(11) 0
+                run(9) 0
+                count(11) 0
                 """);
         EdgeTest.edge("shows a RESERVE below its CARE", PaperTests.FOUR + """
                 tape show 31

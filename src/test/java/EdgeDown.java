@@ -20,6 +20,7 @@ final class EdgeDown {
         down();
         noted();
         asked();
+        namesOfMany();
         askedNames();
         holders();
         namesThatPayTheFallen();
@@ -251,6 +252,42 @@ final class EdgeDown {
                 of(1, 5) 1
                 run(1) 0
                 of(1, 5) 2
+                """);
+    }
+
+    private static void namesOfMany() {
+        EdgeTest.edge("ASKED is the last of its NAMES that isn't the HOLDER, nor the DEBTOR", PaperTests.FOUR + """
+                house(0, 0) 5
+                gold(0, 900) 900
+                gold(4, 99) 99
+                bill(1, 2, 10, 1) 0
+                bill(1, 5, 11, 1) 1
+                bill(1, 3, 12, 1) 2
+                bill(3, 2, 13, 1) 3
+                bill(4, 5, 14, 1) 4
+                bill(1, 2, 15, 1) 5
+                bill(1, 4, 16, 1) 6
+                sell(0) 10
+                sell(1) 11
+                sell(2) 12
+                sell(6) 16
+                run(2) 2
+                of(0, 9) 2
+                of(6, 9) 2
+                of(3, 9) -1
+                of(5, 9) -1
+                run(1) 0                     # each of its own drawer
+                of(0, 3) 2
+                of(1, 3) 5
+                of(2, 3) 0
+                of(2, 5) 2                   # 3 is down: it couldn't pay 13
+                of(3, 5) 2
+                of(4, 0) -3
+                of(5, 5) 2
+                of(6, 3) 4
+                look(2, 7) 0
+                look(5, 7) 14
+                look(4, 7) 85
                 """);
     }
 

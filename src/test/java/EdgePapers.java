@@ -5,6 +5,9 @@ final class EdgePapers {
 
     static void all() {
         papers();
+        kinds();
+        fullTable();
+        numbersUsedAgain();
         states();
         bills();
         sales();
@@ -77,6 +80,142 @@ final class EdgePapers {
                 of(5, 4) -1
                 of(1, 4) 5
                 of(3, 4) 5
+                """);
+    }
+
+    private static void kinds() {
+        EdgeTest.edge("KINDS: 0 PROMISE, 1 BILL, 2 DEPOSIT, 3 PLEDGE.", PaperTests.FOUR + """
+                gold(0, 900) 900
+                gold(1, 5) 5
+                tape lend 100
+                text(0, 99) 0
+                promise(1, 2, 5, 9) 0
+                bill(1, 2, 20, 9) 1
+                deposit(1, 3, 5) 2
+                help(1, 5) 3
+                of(0, 0) 0
+                of(1, 0) 1
+                of(2, 0) 2
+                of(3, 0) 3
+                of(0, 4) 9
+                of(1, 4) 9
+                of(2, 4) -1
+                of(3, 4) 5
+                of(0, 6) 0
+                of(1, 6) 2
+                of(2, 6) 0
+                of(3, 6) 0
+                of(0, 8) -1
+                of(1, 8) -1
+                of(2, 8) -1
+                of(3, 8) 1
+                look(1, 8) 1                 # the deposit
+                look(1, 9) 2                 # the promise, the bill
+                look(2, 8) 1
+                look(2, 9) 1                 # the pledge
+                look(0, 8) 2
+                look(0, 9) 0
+                look(3, 8) 0
+                look(3, 9) 1
+                look(4, 8) 0
+                look(4, 9) 0
+                """);
+    }
+
+    private static void fullTable() {
+        EdgeTest.edge("PAPERS have numbers 0 .. 59", PaperTests.FOUR + """
+                gold(0, 900) 900
+                gold(1, 30) 30
+                trade(1, 2, 100, 9) 0
+                bold(1, 0) 9000
+                30 x promise(2, 4, 1, 3) 0..
+                deposit(1, 3, 20) 30
+                deposit(1, 3, 10) 31
+                26 x bill(2, 4, 1, 9) 32..
+                mind(4, 2, 0) 0
+                bill(4, 2, 9, 20) 58
+                promise(4, 1, 9, 30) 59
+                count(4) 60
+                promise(1, 2, 1, 1) -8
+                look(2, 8) 1
+                look(2, 9) 56
+                look(4, 8) 56
+                look(4, 9) 2
+                look(1, 8) 3
+                run(1) 0                     # no bill by trade, and 4 sells two
+                count(4) 60
+                look(4, 8) 54
+                look(0, 8) 2
+                run(2) 0
+                run(1) 1                     # 2 is down, and 1 asks for what it has
+                look(4, 8) 54
+                count(4) 58
+                of(30, 0) -3
+                of(31, 0) -3
+                of(59, 5) 0
+                look(1, 7) 30
+                assets(2) 9                  # of 30 promises, 26 bills
+                gets(29) 0
+                gets(57) 0
+                deposit(1, 3, 2) 30
+                deposit(1, 3, 2) 31
+                run(1) 0                     # it still hears of one failure: both are asked
+                of(31, 0) -3
+                run(5) 0                     # all the bills are due
+                of(57, 5) 2
+                of(32, 5) 1                  # of THE BANK: 4 is asked
+                of(32, 9) 10
+                """);
+        EdgeTest.edge("PAPERS have numbers 0 .. 59", PaperTests.FOUR + """
+                gold(3, 9) 9
+                59 x bill(1, 2, 1, 60) 0..
+                bill(1, 2, 2, 59) 59
+                mind(2, 2, 3) 0
+                run(1) 0
+                of(59, 3) 3                  # the last number is due first
+                of(0, 3) 2
+                mind(2, 5, 3) 2
+                run(1) 0
+                of(0, 3) 3
+                of(2, 3) 3
+                of(3, 3) 2
+                bill(1, 2, 1, 60) -8
+                """);
+    }
+
+    private static void numbersUsedAgain() {
+        EdgeTest.edge("a new one takes the least that is free.", PaperTests.FOUR + """
+                gold(0, 900) 900
+                gold(1, 500) 500
+                rate(0) 5
+                tape lend 100
+                text(0, 99) 0
+                tell(0, 0, 200) -1
+                trade(1, 2, 40, 1) 0
+                run(1) 0
+                of(0, 10) 1
+                bill(1, 2, 20, 9) 1
+                help(1, 1) 2
+                of(2, 8) 1
+                sell(0) -7                   # due on the open day
+                look(1, 2) 500
+                goesOn(0, 0) 1
+                run(2) 0                     # the first bill and the pledge are paid
+                look(1, 2) 540
+                bill(1, 2, 30, 3) 0
+                bill(2, 1, 30, 3) 2
+                of(0, 10) 0
+                of(0, 8) -1
+                of(2, 8) -1
+                of(2, 0) 1
+                of(2, 7) 0
+                of(2, 10) 0
+                name(2, 0) 2
+                name(2, 1) 1
+                sell(0) 30
+                run(4) 0
+                sheet(0, 2) 0                # it was paid on day 6: a free one counts nowhere
+                look(1, 7) 540               # no proceeds: 30 go, and 30 come
                 """);
     }
 
@@ -233,6 +372,23 @@ final class EdgePapers {
                 mind(3, 39, 0) 40
                 sell(1) 1
                 count(12) 0
+                """);
+        EdgeTest.edge("THE BANK BUYS at RATE, if the LAW buy says so (not 0), and it CAN; a BANK at RATE and 1",
+                PaperTests.FOUR + """
+                gold(0, 9000) 9000
+                gold(3, 9000) 9000
+                rate(4) 5
+                bill(1, 2, 3600, 60) 0
+                bill(1, 2, 2400, 60) 1
+                price(0, 5) 3570
+                mind(2, 0, 3) 0
+                sell(0) 3570
+                mind(2, 0, 0) 0
+                sell(1) 2384                 # at 4
+                rate(20) 4
+                bill(1, 2, 3600, 60) 2
+                mind(2, 0, 3) 0
+                sell(2) 3474                 # at 21
                 """);
         EdgeTest.edge("and its COIN less the PRICE is MIN at least, and it CAN.", PaperTests.FOUR + """
                 gold(0, 900) 900
@@ -400,6 +556,25 @@ final class EdgePapers {
                 ask(3) 1
                 help(6, 5) 3
                 """);
+        EdgeTest.edge("it isn't LIVE, the HOLDER is DOWN, too few DAYS are left to its DUE", PaperTests.FOUR + """
+                gold(0, 900) 900
+                tape lend 100
+                text(0, 99) 0
+                run(5) 0
+                bill(1, 2, 20, 8) 0          # due on day 13
+                bill(1, 4, 20, 8) 1
+                help(0, 8) -7
+                help(0, 7) 2
+                of(2, 4) 12
+                promise(4, 2, 5, 1) 3
+                run(2) 1
+                help(1, 2) -7                # its holder is down
+                of(1, 5) 0
+                bill(1, 2, 20, 3) 4          # due on day 10
+                help(4, 3) -7
+                help(4, 2) 5
+                of(5, 4) 9
+                """);
         EdgeTest.edge("(lend counts as 0 .. 100, hide as 0 at least.)", PaperTests.FOUR + """
                 gold(0, 900) 900
                 rate(0) 5
@@ -559,6 +734,25 @@ final class EdgePapers {
                 deposit(1, 3, 1) -8
                 look(1, 2) 1                 # nothing was given
                 deposit(1, 2, 1) -5
+                """);
+        EdgeTest.edge("NO: SUM, a HOUSE and itself, one is DOWN, it CAN'T; FULL.", PaperTests.FOUR + """
+                gold(1, 90) 90
+                gold(2, 90) 90
+                promise(3, 1, 5, 1) 0
+                promise(2, 1, 95, 1) 1
+                deposit(1, 3, 4) 2
+                deposit(1, 3, 0) -7
+                deposit(1, 3, -1) -7
+                deposit(1, 3, 10000) -7
+                deposit(1, 3, 9999) -7
+                run(2) 2
+                deposit(1, 3, 5) -7          # the bank is down
+                deposit(2, 4, 5) -7          # the house is
+                deposit(2, 3, 5) -7
+                deposit(1, 4, 5) 3
+                deposit(1, 4, 81) 4
+                deposit(1, 4, 1) -7          # nothing is left
+                look(2, 7) 90
                 """);
         offers();
     }

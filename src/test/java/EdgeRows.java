@@ -5,6 +5,7 @@ final class EdgeRows {
 
     static void all() {
         refusals();
+        refusedCalls();
         land();
         laying();
         numbers();
@@ -81,6 +82,94 @@ final class EdgeRows {
             EdgeTest.edge("`" + name + " = " + value + "`: " + text + ".",
                     value == -1 ? "status(-1) -7" : "status(" + value + ") 0");
         }
+    }
+
+    // ModelTest holds runs by chance against the same runs without the calls that were refused.
+    private static void refusedCalls() {
+        EdgeTest.edge("A refused call changes nothing but status().", PaperTests.FOUR + """
+                7 x town() 1..
+                road(0, 1, 9) 1
+                gold(0, 100) 100
+                give(0, 1, 30) 100
+                forge(1, 0) 1
+                gold(1, 5) 5
+                bill(1, 2, 50, 9) 0
+                promise(1, 2, 7, 9) 1
+                deposit(1, 3, 10) 2
+                trade(1, 2, 9, 9) 0
+                tape rate 3
+                text(9, 99) 0
+                tape out
+                lay(2) 2
+                set(0, 6) 0
+                town() -8
+                road(0, 1, 31) -7
+                house(2, 0) -5
+                gold(1, 10001) -7
+                mind(1, 10000, 3) -7
+                mind(1, 5, 2) -5
+                bold(1, 10000) -7
+                give(1, 0, 60) -7            # nothing is found by it
+                present(1, 0) -7
+                present(0, 9) -5
+                burn(0) -7
+                forge(1, 99) -7
+                promise(1, 2, 0, 5) -7
+                bill(1, 2, 5, 61) -7
+                deposit(1, 3, 60) -7
+                help(0, 5) -7
+                sell(1) -5
+                ask(0) -5
+                trade(1, 2, 0, 5) -7
+                goesOn(0, 2) -7
+                tell(0, 0, 201) 0
+                read(2) -3
+                flow(101) -7
+                rate(21) -7
+                feed(65, 5) -7
+                text(9, 9) -7
+                text(0, 9) -13
+                run(71) -7
+                attempt(21, 1, 0) -7
+                plan(21, 1) -7
+                judge() -5
+                back() -2
+                lay(61) -7
+                set(2, 9) 0
+                copy(0, 1, 2) -6
+                status(-9) -7
+                count(0) 0
+                count(1) 8
+                count(2) 5
+                count(3) 1
+                count(4) 3
+                count(5) 1
+                count(6) 1
+                count(7) 3
+                count(8) 30
+                count(9) 0
+                count(11) 0
+                count(12) 0
+                count(13) 0
+                count(15) 5
+                far(0, 1) 9
+                look(0, 2) 100
+                look(1, 2) 5
+                look(1, 3) 3
+                look(1, 5) 0
+                look(1, 6) 0
+                look(3, 3) 1
+                copyAt(0, 0) 3
+                copyAt(0, 1) 1
+                week(0, 0) 100
+                row(0) 6
+                row(1) 0
+                tear() 1
+                bold(1, 0) 9000
+                flow(0) 0
+                goesOn(0, 1) 1
+                rate(5) 5
+                """);
     }
 
     private static void land() {

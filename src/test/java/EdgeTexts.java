@@ -137,6 +137,12 @@ final class EdgeTexts {
         reads(sentence, "out go ld", 4);
         reads(sentence, "out goldday", 4);
         reads(sentence, "out 1 2", 6);
+        reads(sentence, "out goldz", 4);
+        reads(sentence, "out zgold", 4);
+        reads(sentence, "out golda", 4);
+        reads(sentence, "out agold", 4);
+        reads(sentence, "out gold{", 8);
+        reads(sentence, "out gold`", 8);
         reads(sentence, "out not1", NO_FAULT);
         reads(sentence, "out notgold", 4);
         reads(sentence, "out 1+2-3*4/5%6=7", NO_FAULT);

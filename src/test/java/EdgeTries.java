@@ -15,6 +15,8 @@ final class EdgeTries {
         judges();
         images();
         imagesOfAll();
+        imagesOfPapers();
+        imagesOfNotes();
     }
 
     private static void tries() {
@@ -70,6 +72,19 @@ final class EdgeTries {
                 run(4) 0
                 count(15) 9                  # now it is followed
                 look(0, 2) 100
+                """);
+        EdgeTest.edge("the RULE rate is not followed.", land + """
+                run(3) 0
+                trade(1, 2, 100, 1) 0
+                plan(676500, 1) 0            # at 20 from day 3 to day 9
+                row(0) 20
+                row(1) 250
+                row(3) 0
+                judge() -1
+                plan(642675, 1) 1            # at 19 the bill of day 7 is 62
+                row(0) 19
+                row(3) 1
+                judge() -1
                 """);
         EdgeTest.edge("from the open DAY on 7 times so many DAYS go by", LandTests.ONE_DOWN + """
                 house(0, 0) 3
@@ -619,6 +634,138 @@ final class EdgeTries {
                 says(4, -1) 7
                 back() 0
                 says(4, -1) 3
+                """);
+    }
+
+    private static void imagesOfPapers() {
+        EdgeTest.edge("All is again as it was kept", PaperTests.FOUR + """
+                gold(0, 900) 900
+                gold(1, 300) 300
+                gold(2, 100) 100
+                rate(0) 5
+                tape lend 50
+                text(0, 99) 0
+                tape hide 9
+                text(0, 99) 1
+                trade(1, 2, 40, 2) 0
+                run(1) 0
+                bill(1, 3, 20, 9) 1
+                help(1, 1) 2
+                promise(4, 2, 7, 30) 3
+                bill(4, 2, 8, 1) 4
+                sell(4) 8
+                image() 1
+                run(3) 1                     # 0 and the pledge are paid, 4 is protested, and paid by its drawer
+                promise(3, 2, 99, 5) 0
+                deposit(2, 3, 9) 2
+                look(4, 4) 0
+                bill(2, 1, 9, 9) 5
+                help(1, 4) 6
+                back() 1
+                of(0, 0) 1
+                of(0, 1) 40
+                of(0, 2) 1
+                of(0, 3) 2
+                of(0, 4) 2
+                of(0, 10) 1
+                name(0, 1) 2
+                of(1, 7) 1
+                of(1, 3) 0
+                of(2, 0) 3
+                of(2, 1) 10
+                of(2, 8) 1
+                of(2, 4) 2
+                of(3, 5) 0
+                of(4, 5) 0
+                of(4, 9) -1
+                of(4, 3) 0
+                of(5, 0) -3
+                of(6, 0) -3
+                count(4) 5
+                down(4, 0) -2
+                run(2) 1
+                image() 3
+                of(4, 9) 3
+                down(4, 0) 2
+                run(4) 0
+                sheet(0, 2) 0                # the pledge was paid
+                of(4, 9) -1
+                back() 3
+                of(4, 9) 3
+                of(4, 6) 2
+                down(4, 1) 4
+                down(4, 2) 0
+                down(4, 3) 0
+                """);
+        EdgeTest.edge("All is again as it was kept", PaperTests.FOUR + """
+                gold(0, 900) 900
+                rate(0) 5
+                tape lend 100
+                text(0, 99) 0
+                tape hide 3
+                text(0, 99) 1
+                bill(1, 2, 40, 60) 0
+                bill(1, 2, 50, 60) 1
+                run(2) 0
+                help(0, 50) 2                # four days ahead of the sheet
+                run(1) 0
+                image() 3
+                run(1) 0
+                help(1, 50) 3
+                run(3) 0
+                sheet(0, 2) 50
+                sheet(0, 3) 40
+                back() 3
+                help(1, 50) 3                # three days ahead
+                run(4) 0
+                sheet(0, 2) 50
+                sheet(0, 3) 40
+                back() 3
+                run(4) 0
+                sheet(0, 2) 0
+                sheet(0, 3) 40
+                """);
+    }
+
+    private static void imagesOfNotes() {
+        EdgeTest.edge("All is again as it was kept", PaperTests.FOUR + """
+                gold(0, 500) 500
+                give(0, 1, 30) 500
+                forge(2, 0) 1
+                give(1, 0, 10) 0             # copy 0 of 0 is in
+                image() 0
+                give(0, 1, 10) 500
+                give(2, 0, 10) 0             # now copy 1 is
+                forge(2, 1) 1
+                forge(2, 0) 2
+                give(0, 4, 20) 500
+                copyAt(0, 1) 4
+                copyAt(3, 0) 4
+                back() 0
+                copyAt(0, 0) 0
+                copyAt(0, 1) 2
+                copyAt(0, 2) -3
+                copyAt(1, 1) -3
+                copyAt(3, 0) -3
+                trail(0, 0, 3) -3
+                trail(0, 1, 1) -3
+                give(0, 4, 20) 500
+                copyAt(0, 0) 4               # copy 0 goes on
+                copyAt(0, 1) 2
+                trail(0, 0, 3) 4
+                copyAt(3, 0) 4
+                give(4, 2, 20) 0
+                look(2, 3) 3
+                give(2, 1, 20) 0
+                copyAt(0, 0) 1
+                copyAt(0, 1) 1
+                copyAt(3, 0) 2
+                back() 0
+                number(3) 0
+                copyAt(2, 0) 1
+                look(1, 3) 2
+                look(2, 3) 1
+                look(4, 3) 0
                 """);
     }
 }

@@ -420,6 +420,21 @@ final class EdgeWeeks {
                 sheet(2, 2) 131              # hide is -1, that counts as 0: 50, 81
                 sheet(2, 3) 311
                 """);
+        EdgeTest.edge("2 SUMS of BILLS that it holds", PaperTests.FOUR + """
+                gold(0, 900) 900
+                gold(1, 50) 50
+                bill(1, 2, 50, 8) 0
+                bill(1, 2, 60, 60) 1
+                bill(1, 2, 70, 60) 2
+                promise(1, 2, 80, 60) 3
+                sell(0) 50
+                sell(2) 70
+                run(7) 0
+                sheet(0, 2) 120
+                sheet(0, 3) 0
+                run(7) 0                     # the first was paid on day 8
+                sheet(1, 2) 70
+                """);
         EdgeTest.edge("(LIVE ones, not in PLEDGE)", PaperTests.FOUR + """
                 gold(0, 900) 900
                 rate(0) 5

@@ -172,6 +172,7 @@ final class Model {
     int[] row;
     List<Integer> tape = new ArrayList<>();
     int[] refusals = new int[9];
+    boolean wasRefused;
 
     Model() {
         House bank = new House();
@@ -185,11 +186,13 @@ final class Model {
 
     int no(int answer) {
         refusals[-answer]++;
+        wasRefused = true;
         return answer;
     }
 
     int zero(int reason) {
         refusals[-reason]++;
+        wasRefused = true;
         return 0;
     }
 

@@ -4,13 +4,15 @@ import java.util.Random;
 
 /**
  * Runs of calls drawn by chance (the same ones each time), answered by the program and by the Model;
- * each answer is compared, and at the end of a run all that can be asked.
+ * each answer is compared, and at the end of a run all that can be asked. A second object of the
+ * program gets only the calls that aren't refused: it must answer likewise (but for status()).
  * Arguments: how many runs, and the first one's number.
  */
 public final class ModelTest {
     private static final int CALLS = 512;
     private final Random chance;
     private final Program program = new Program();
+    private final Program calm = new Program();
     private final ModelCalls model = new ModelCalls();
     private final List<String> history = new ArrayList<>();
     private final int style;
@@ -55,9 +57,18 @@ public final class ModelTest {
 
     private int call(String name, int... a) {
         int got = program.call(name, a);
+        model.m.wasRefused = false;
         int due = model.call(name, a);
         history.add(Program.told(name, a) + " " + got + (got == due ? "" : ", due is " + due));
         wrong += got == due ? 0 : 1;
+        boolean isFault = name.equals("text") && due <= -10;
+        if (!model.m.wasRefused && !isFault && !name.equals("status")) {
+            int other = calm.call(name, a);
+            wrong += other == due ? 0 : 1;
+            if (other != due) {
+                history.add("  without the refused calls: " + other);
+            }
+        }
         return due;
     }
 
