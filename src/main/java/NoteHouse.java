@@ -1533,9 +1533,6 @@ public final class NoteHouse {
                 "out rate buy lend hide show lift gold notes reserve week day price sum days names town if or and not ";
         static final int FIRST_NAME = 7;
         static final int WORD_IF = 17;
-        static final int WORD_OR = 18;
-        static final int WORD_AND = 19;
-        static final int WORD_NOT = 20;
         static final int OPEN_MOST = 6;
         static final int DIGITS = 5;
         static final int BLANK = 32;

@@ -151,7 +151,7 @@ final class EdgeTexts {
         reads(sentence, "out 1<=2", 6);
         reads(sentence, "out 1==2", 6);
         reads(sentence, "out 1<>2", 6);
-        means(sentence, "1 2".replace(" ", ""), 12);
+        means(sentence, "12", 12);
         for (int b : new int[] {0, 9, 10, 31, 33, 34, 36, 38, 39, 44, 46, 58, 59, 63, 64, 65, 90, 91, 95, 96, 123, 127,
             128, 255, 'o' + 128}) {
             reads("also of a byte that begins none", "out " + (char) b + "1", 4);

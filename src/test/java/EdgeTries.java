@@ -668,6 +668,7 @@ final class EdgeTries {
                 of(0, 3) 2
                 of(0, 4) 2
                 of(0, 10) 1
+                name(0, 0) 1
                 name(0, 1) 2
                 of(1, 7) 1
                 of(1, 3) 0
@@ -722,6 +723,78 @@ final class EdgeTries {
                 sheet(0, 3) 40
                 back() 3
                 run(4) 0
+                sheet(0, 2) 0
+                sheet(0, 3) 40
+                """);
+        EdgeTest.edge("All is again as it was kept", PaperTests.FOUR + """
+                gold(0, 900) 900
+                rate(0) 5
+                tape lend 100
+                text(0, 99) 0
+                tape hide 2
+                text(0, 99) 1
+                bill(1, 2, 40, 60) 0
+                bill(3, 4, 50, 60) 1
+                run(2) 0
+                help(0, 2) 2                 # made on day 2, due on day 4
+                image() 2
+                run(3) 0
+                of(0, 7) 0
+                of(0, 3) 2
+                help(1, 20) 2                # the same number, of another bill
+                of(2, 8) 1
+                back() 2
+                of(0, 7) 1
+                of(0, 3) 0
+                of(1, 7) 0
+                of(1, 3) 4
+                of(2, 8) 0
+                of(2, 2) 2
+                run(3) 0
+                of(0, 7) 0
+                of(0, 3) 2
+                back() 2
+                help(1, 20) 3
+                run(2) 0
+                image() 4
+                run(1) 0
+                of(2, 0) -3
+                help(0, 20) 2                # made on day 5
+                run(2) 0
+                sheet(0, 2) 40
+                sheet(0, 3) 50
+                back() 4
+                run(1) 0
+                bill(4, 3, 60, 60) 2
+                of(0, 7) 0
+                back() 4
+                of(0, 7) 1
+                of(2, 8) 0
+                """);
+        EdgeTest.edge("All is again as it was kept", PaperTests.FOUR + """
+                gold(0, 900) 900
+                rate(0) 5
+                tape lend 100
+                text(0, 99) 0
+                tape hide 2
+                text(0, 99) 1
+                bill(1, 2, 40, 60) 0
+                bill(3, 4, 50, 60) 1
+                bill(1, 2, 30, 1) 2
+                gold(1, 30) 30
+                run(2) 0
+                help(0, 9) 2                 # made on day 2
+                image() 2
+                back() 2
+                give(2, 1, 30) 30
+                promise(2, 1, 41, 1) 3
+                run(2) 1                     # the pledge is dead
+                of(2, 5) 2
+                of(0, 7) 0
+                back() 2
+                of(2, 5) 0
+                of(0, 7) 1
+                run(5) 0
                 sheet(0, 2) 0
                 sheet(0, 3) 40
                 """);
