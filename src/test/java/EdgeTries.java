@@ -783,8 +783,15 @@ final class EdgeTries {
                 bill(1, 2, 30, 1) 2
                 gold(1, 30) 30
                 run(2) 0
-                help(0, 9) 2                 # made on day 2
+                help(0, 6) 2                 # made on day 2, due on day 8
                 image() 2
+                run(7) 0
+                of(2, 0) -3
+                help(1, 9) 2                 # the same number, made on day 9
+                back() 2
+                run(5) 0
+                sheet(0, 2) 0
+                sheet(0, 3) 40
                 back() 2
                 give(2, 1, 30) 30
                 promise(2, 1, 41, 1) 3
