@@ -17,6 +17,7 @@ public final class NoteHouse {
     private static final int SHEETS = 100;
     private static final int SHEET_NUMBERS = 6;
     private static final int SHEET_RESERVE = 5;
+    private static final int RESERVE_MOST = 999;
     private static final int TRY_WEEKS = 4;
     private static final int RATE_MOST = 20;
     private static final int RATE_BITS = 5;
@@ -1911,10 +1912,10 @@ public final class NoteHouse {
 
         int reserve() {
             int out = NOTE * notes.out;
-            if (out == 0) {
-                return 999;
+            if (out <= 0 || 100L * houses.gold[THE_BANK] / out > RESERVE_MOST) {
+                return RESERVE_MOST;
             }
-            return (int) Math.min(999, 100L * houses.gold[THE_BANK] / out);
+            return (int) (100L * houses.gold[THE_BANK] / out);
         }
 
         // ---- what the texts say

@@ -256,6 +256,21 @@ final class EdgeDown {
     }
 
     private static void namesOfMany() {
+        EdgeTest.edge("ASKED is the last of its NAMES that isn't the HOLDER, nor the DEBTOR", LAND + """
+                house(0, 0) 4
+                gold(3, 50) 50
+                mind(4, 0, 3) 0
+                bill(1, 2, 30, 9) 0
+                bill(1, 4, 20, 2) 1
+                sell(1) 20
+                run(5) 1
+                of(1, 9) 5
+                run(1) 0                     # the drawer of this bill pays, not that of the one ahead
+                of(1, 3) 4
+                look(4, 7) 0
+                look(4, 4) 1
+                look(2, 4) 1
+                """);
         EdgeTest.edge("ASKED is the last of its NAMES that isn't the HOLDER, nor the DEBTOR", PaperTests.FOUR + """
                 house(0, 0) 5
                 gold(0, 900) 900
@@ -462,6 +477,19 @@ final class EdgeDown {
                 gets(3) 7
                 gets(4) -2
                 gets(5) -3
+                """);
+        EdgeTest.edge("its COIN, and of PAPERS that it holds the SUM (if the DEBTOR is UP), or what the CLAIM GETS.",
+                PaperTests.FOUR + """
+                gold(1, 15) 15
+                promise(1, 2, 10, 1) 0
+                promise(1, 3, 40, 2) 1
+                promise(2, 3, 20, 2) 2
+                run(3) 2
+                of(0, 0) -3                  # paid, ahead of both failures: no claim any more
+                assets(1) 5
+                gets(1) 5
+                assets(2) 10
+                gets(2) 10
                 """);
         EdgeTest.edge("its COIN, and of PAPERS that it holds the SUM (if the DEBTOR is UP), or what the CLAIM GETS.",
                 PaperTests.FOUR + """

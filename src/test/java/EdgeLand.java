@@ -371,6 +371,20 @@ final class EdgeLand {
                 look(0, 8) 1                 # protested ones, too
                 look(1, 9) 1
                 """);
+        EdgeTest.edge("how many PAPERS it holds (8), is DEBTOR of (9).", """
+                house(0, 0) 1
+                house(0, 0) 2
+                gold(1, 5) 5
+                promise(1, 2, 5, 1) 0
+                promise(1, 2, 9, 9) 1
+                look(2, 8) 2
+                look(1, 9) 2
+                run(2) 0
+                look(2, 8) 1                 # one is paid
+                look(1, 9) 1
+                look(1, 8) 0
+                look(2, 9) 0
+                """);
         EdgeTest.edge("Of a HOUSE that is DOWN: the DAY (what = 0), the PAPER (1), to whom (2), how (3)."
                 + " BEYOND, MISSING: it is UP; NO.", LandTests.ONE_DOWN + """
                 down(1, -1) -7

@@ -247,6 +247,23 @@ final class EdgeNotes {
                 look(2, 7) 0
                 give(1, 1, 5) -7             # but the call is refused
                 """);
+        EdgeTest.edge("To GIVE to itself changes nothing, and each CAN.", """
+                house(0, 0) 1
+                house(1, 0) 2
+                mind(1, 0, 2) 0
+                gold(0, 500) 500
+                give(0, 2, 50) 500
+                gold(2, 7) 7
+                bill(2, 1, 30, 3) 0
+                sell(0) 30                   # the bank holds what it owes, and two notes
+                run(4) 0
+                of(0, 0) -3
+                look(2, 2) 7
+                look(2, 3) 2
+                trail(3, 0, 1) 2
+                trail(3, 0, 2) -3            # no house held it twice
+                trail(4, 0, 2) -3
+                """);
     }
 
     private static void givingOfHouses() {
@@ -280,6 +297,20 @@ final class EdgeNotes {
                 look(2, 7) 0
                 give(2, 1, 1) -7
                 give(1, 2, 20) 20
+                """);
+        EdgeTest.edge("A HOUSE GIVES s (1 .. 9999) to another one: its GOLD then."
+                + " BEYOND, NO: s, a HOUSE and itself, one is DOWN, it CAN'T.", """
+                house(0, 0) 1
+                house(0, 0) 2
+                gold(0, 50) 50
+                give(0, 1, 15) 45
+                promise(1, 2, 16, 1) 0
+                run(2) 1
+                look(1, 7) 15                # it is down, with a note and gold
+                give(1, 2, 15) -7
+                give(1, 0, 10) -7
+                give(1, 2, 5) -7
+                look(1, 7) 15
                 """);
         EdgeTest.edge("A HOUSE GIVES s (1 .. 9999) to another one: its GOLD then."
                 + " BEYOND, NO: s, a HOUSE and itself, one is DOWN, it CAN'T.", LandTests.ONE_DOWN + """
@@ -398,6 +429,33 @@ final class EdgeNotes {
                 count(11) 2
                 count(8) 0
                 look(1, 3) 0
+                """);
+        EdgeTest.edge("(Where it is asked whether it CAN: as if these were gone; nothing is FOUND by that.)",
+                NoteTests.FIVE_NOTES + """
+                give(1, 0, 10) 0             # number 0 is in
+                forge(1, 0) 1                # so this copy isn't worth a thing
+                look(1, 3) 5
+                give(1, 0, 50) -7
+                give(1, 0, 41) -7
+                count(11) 0
+                give(1, 0, 40) 0
+                count(11) 1
+                look(1, 3) 0
+                look(1, 2) 0
+                """);
+        EdgeTest.edge("(Where it is asked whether it CAN: as if these were gone; nothing is FOUND by that.)",
+                NoteTests.FIVE_NOTES + """
+                give(1, 0, 10) 0
+                burn(0) 1
+                forge(2, 0) 1
+                give(2, 0, 10) -7
+                bill(2, 1, 10, 1) 0
+                sell(0) 10                   # THE BANK is its holder
+                run(2) 1
+                down(2, 0) 1                 # the copy of what is burnt doesn't pay it
+                look(2, 3) 1
+                copyAt(0, 1) 2
+                count(11) 0
                 """);
         EdgeTest.edge("Then as above; NUMBERS given so are IN.", NoteTests.FIVE_NOTES + """
                 gold(1, 8) 8

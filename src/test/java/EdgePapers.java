@@ -266,6 +266,8 @@ final class EdgePapers {
                 bill(1, 2, 1201, 6) 2
                 bill(1, 2, 9999, 60) 3
                 bill(1, 2, 1, 60) 4
+                bill(1, 2, 6857, 21) 5
+                price(5, 1) 6854             # 143997 / 36000
                 price(0, 5) 1199             # 35970 / 36000
                 price(1, 5) 1199             # 36000 / 36000
                 price(2, 5) 1200
@@ -491,6 +493,15 @@ final class EdgePapers {
                 rate(20) 5
                 help(2, 59) 5
                 of(5, 1) 620                 # 19.7
+                """);
+        EdgeTest.edge("and its interest (it times RATE times DAYS / 36000) more", PaperTests.FOUR + """
+                gold(0, 900) 900
+                tape lend 100
+                text(0, 99) 0
+                rate(7) 5
+                bill(1, 2, 559, 60) 0
+                help(0, 46) 1
+                of(1, 1) 563                 # 559, and 179998 / 36000
                 """);
         EdgeTest.edge("The BILL (of which the HOUSE is HOLDER, LIVE, not in PLEDGE) is in PLEDGE then,"
                 + " its HOLDER is THE BANK.", PaperTests.FOUR + """

@@ -122,6 +122,13 @@ final class EdgeTexts {
                 says(0, -1) 7
                 count(7) 0
                 """);
+        String full = "THE TAPE (bytes, 120 at most)";
+        reads(full, "out " + "1+".repeat(57) + "go", 118);       // a WORD that ends with THE TAPE
+        reads(full, "out " + "1+".repeat(56) + "gold", NO_FAULT);
+        reads(full, "out " + "1+".repeat(55) + "golds ", 114);
+        reads(full, "out " + "1+".repeat(58), 120);
+        reads(full, "out 1" + " ".repeat(113) + "if", 120);
+        reads(full, "out 1" + " ".repeat(114) + "i", 119);
     }
 
     private static void tokens() {
@@ -204,6 +211,11 @@ final class EdgeTexts {
             reads("a WORD that is none of these", "out 1 " + word, 6);
             reads("a WORD that is none of these", "out " + word, 4);
             reads("a WORD that is none of these", word + " 1", 0);
+            reads("a WORD that is none of these", "out -" + word, 5);
+            reads("a WORD that is none of these", "out (" + word, 5);
+            reads("a WORD that is none of these", "out not " + word, 8);
+            reads("a WORD that is none of these", "out 1*" + word + " 2", 6);
+            reads("a WORD that is none of these", "out 1 if " + word, 9);
         }
     }
 

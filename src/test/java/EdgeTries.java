@@ -323,6 +323,19 @@ final class EdgeTries {
                 row(9) 106
                 row(11) 2
                 """);
+        EdgeTest.edge("Its ROW has for each WEEK four numbers: RATE, and THE BANK's GOLD, OUT, HOUSES DOWN behind it.",
+                PaperTests.FOUR + """
+                gold(0, 500) 500
+                mind(1, 9999, 0) 0
+                trade(2, 1, 100, 60) 0
+                plan(168069, 3) 0            # 5, 4, 4, 5: each WEEK a bill of 90 is sold for 9 notes
+                row(2) 90
+                row(6) 180
+                row(10) 270
+                judge() -1
+                set(6, 90) 180
+                judge() 6
+                """);
     }
 
     private static void attempts() {
@@ -559,6 +572,51 @@ final class EdgeTries {
     }
 
     private static void imagesOfAll() {
+        EdgeTest.edge("All is kept", """
+                town() 1
+                house(0, 1) 1
+                house(0, 1) 2
+                house(1, 0) 3
+                gold(1, 5) 5
+                promise(1, 2, 1, 9) 0
+                deposit(1, 3, 5) 1
+                give(3, 1, 5) 0
+                ask(1) 0
+                trade(1, 2, 50, 33) 0
+                image() 0
+                look(1, 1) 1
+                down(3, 1) 1
+                down(3, 2) 1
+                down(3, 3) 2
+                run(1) 0
+                of(2, 1) 45
+                of(2, 2) 1
+                of(2, 3) 2
+                of(2, 4) 33
+                back() 0
+                of(2, 4) -3
+                look(1, 1) 1
+                down(3, 1) 1
+                down(3, 2) 1
+                down(3, 3) 2
+                run(1) 0
+                of(2, 4) 33
+                """);
+        EdgeTest.edge("All is again as it was kept", """
+                image() 0
+                tape out -7 if 5 - -9
+                text(0, 9) 0
+                says(0, -1) -7
+                back() 0
+                count(6) 0
+                tape out 7                   # a shorter one in its place
+                text(0, 9) 0
+                says(0, -1) 7
+                back() 0
+                tape out 7 if 3
+                text(0, 9) 0
+                says(0, -1) 7
+                """);
         EdgeTest.edge("All is kept", PaperTests.FOUR + """
                 town() 1
                 road(0, 1, 9) 1

@@ -188,7 +188,9 @@ final class EdgeWeeks {
                 week(0, 104) 200
                 week(0, 2147483647) 200      # place 23
                 tell(0, 23, 9) -1
-                week(0, 2147483647) 9
+                tell(0, 24, 8) -1
+                week(0, 2147483647) 9        # 23 of the 52
+                week(0, 2147483646) 200
                 tell(0, 0, -1) 200
                 week(0, 52) 7
                 status(-7) 6
