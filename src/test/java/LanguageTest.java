@@ -16,6 +16,7 @@ import java.util.regex.Pattern;
 public final class LanguageTest {
     private static final Path FILE = Path.of("src/main/java/NoteHouse.java");
     private static final int LINES = 62;
+    private static final int DEEP = 8;
     private static int wrong;
 
     private LanguageTest() {
@@ -27,6 +28,9 @@ public final class LanguageTest {
         methods(source.split("\n"));
         face();
         constants();
+        for (Map.Entry<String, Integer> call : CallDepth.ofPublic(FILE).entrySet()) {
+            check(call.getValue() <= DEEP, call.getKey() + "() goes " + call.getValue() + " deep");
+        }
         whatCallsMake();
         System.out.println(wrong == 0 ? "the language is kept" : wrong + " rules are broken");
         if (wrong != 0) {
