@@ -160,6 +160,50 @@ final class EdgeLand {
     }
 
     private static void houses() {
+        EdgeTest.edge("HOUSES 0 .. 15 as they come", """
+                3 x town() 1..
+                house(0, 3) 1
+                house(1, 2) 2
+                house(0, 1) 3
+                gold(1, 11) 11
+                gold(2, 12) 12
+                gold(3, 13) 13
+                mind(1, 21, 2) 0
+                mind(2, 22, 0) 0
+                mind(3, 23, 2) 0
+                bold(1, 1031) 9000
+                bold(2, 2032) 9000
+                bold(3, 3033) 9000
+                promise(3, 1, 14, 1) 0
+                run(2) 1
+                4 x house(0, 1) 4..          # none of those that are there becomes another one by it
+                4 x house(1, 2) 8..
+                2 x house(0, 3) 12..
+                house(1, 0) 14
+                look(1, 2) 11
+                look(2, 2) 12
+                look(3, 2) 13
+                look(1, 1) 3
+                look(2, 1) 2
+                look(3, 1) 1
+                look(1, 5) 21
+                look(2, 5) 22
+                look(3, 5) 23
+                look(1, 6) 2
+                look(2, 6) 0
+                look(3, 6) 2
+                look(1, 0) 0
+                look(2, 0) 1
+                look(3, 4) 0
+                down(3, 0) 1
+                down(3, 2) 1
+                bold(1, 9000) 1031
+                bold(2, 9000) 2032
+                bold(3, 9000) 3033
+                bold(14, 9000) 9000
+                look(14, 5) 0
+                look(14, 6) 0
+                """);
         EdgeTest.edge("HOUSES 0 .. 15 as they come: KINDS 0 MERCHANT, 1 BANK, 2 THE BANK"
                 + " (HOUSE 0, in TOWN 0, there at first; no other one).", """
                 count(2) 1

@@ -183,6 +183,54 @@ final class EdgeSays {
                 sell(0) 50
                 """);
         EdgeTest.edge(sentence, PaperTests.FOUR + """
+                gold(0, 500) 500
+                60 x bill(1, 2, 5, 60) ?     # a BILL of each number
+                tape lift sum
+                text(0, 99) 0
+                count(16) 0
+                tape out 10+sum+days+names+town
+                text(0, 99) 1
+                give(0, 1, 20) -7
+                give(0, 1, 10) 500
+                tape rate 3 if names
+                text(0, 99) 2
+                rate(9) 5                    # it says nothing now
+                tape show 63*sum+48
+                text(0, 99) 3
+                tape out days
+                text(8, 99) 4
+                run(7) 0
+                count(15) 9
+                sheet(0, 0) -1
+                sheet(0, 4) 9
+                sheet(0, 5) 999
+                run(1) 0
+                give(0, 1, 10) -7
+                says(0, 59) 52
+                says(1, 59) 3
+                says(6, 59) 5
+                """);
+        EdgeTest.edge("says() and why() take the BILL that they are told, whatever the KEY is", PaperTests.FOUR + """
+                4 x promise(1, 2, 7, 9) 0..
+                bill(1, 2, 5, 9) 4
+                bill(1, 2, 6, 9) 5
+                bill(1, 2, 7, 9) 6
+                bill(1, 2, 8, 9) 7
+                tape rate sum if sum=7
+                text(0, 99) 0
+                says(1, 6) 7
+                why(1, 6) 0
+                status(-2) 0
+                says(1, 5) 0
+                says(1, 7) 0
+                says(1, 4) 0
+                says(1, -1) 0
+                status(-2) 4
+                why(1, 5) -1
+                why(1, 7) -1
+                status(-2) 4
+                """);
+        EdgeTest.edge(sentence, PaperTests.FOUR + """
                 gold(0, 900) 900
                 rate(0) 5
                 tape buy 1 if sum=50 or names=0

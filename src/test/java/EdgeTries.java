@@ -602,6 +602,38 @@ final class EdgeTries {
                 run(1) 0
                 of(2, 4) 33
                 """);
+        EdgeTest.edge("All is again as it was kept", NoteTests.FIVE_NOTES + """
+                forge(2, 0) 1
+                give(2, 0, 10) 0             # number 0 is in, as its copy 1
+                give(1, 0, 20) 0             # 1 and 2; the copy of 0 is found
+                burn(1) 1
+                image() 0
+                2 x give(0, 2, 10) 500       # 0 and 2
+                give(1, 0, 10) 0
+                burn(3) 2
+                forge(1, 3) 1
+                present(1, 9) 1
+                count(11) 2
+                back() 0
+                count(8) 20
+                count(9) 2
+                count(10) 1
+                count(11) 1
+                copyAt(0, 0) -1
+                copyAt(0, 1) 0
+                copyAt(3, 1) -3
+                found(1, 0) -3
+                give(0, 2, 10) 500
+                copyAt(0, 1) 2               # as its copy that came in last
+                copyAt(0, 0) -1
+                """);
+        EdgeTest.edge("OUTCOME: 0 THE BANK's GOLD, 1 OUT", NoteTests.FIVE_NOTES + """
+                give(1, 0, 20) 0
+                attempt(5, 1, 1) 30          # two of the five are in
+                plan(168101, 1) 0
+                row(2) 30
+                judge() -1
+                """);
         EdgeTest.edge("All is again as it was kept", """
                 image() 0
                 tape out -7 if 5 - -9
