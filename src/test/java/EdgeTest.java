@@ -33,6 +33,7 @@ public final class EdgeTest {
         EdgeDown.all();
         EdgeDays.all();
         EdgeWeeks.all();
+        EdgeSteps.all();
         EdgeTexts.all();
         EdgeSays.all();
         EdgeTries.all();

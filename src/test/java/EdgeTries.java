@@ -582,7 +582,7 @@ final class EdgeTries {
                 deposit(1, 3, 5) 1
                 give(3, 1, 5) 0
                 ask(1) 0
-                trade(1, 2, 50, 33) 0
+                trade(2, 1, 50, 33) 0
                 image() 0
                 look(1, 1) 1
                 down(3, 1) 1
@@ -590,8 +590,8 @@ final class EdgeTries {
                 down(3, 3) 2
                 run(1) 0
                 of(2, 1) 45
-                of(2, 2) 1
-                of(2, 3) 2
+                of(2, 2) 2
+                of(2, 3) 1
                 of(2, 4) 33
                 back() 0
                 of(2, 4) -3
@@ -599,7 +599,16 @@ final class EdgeTries {
                 down(3, 1) 1
                 down(3, 2) 1
                 down(3, 3) 2
+                goesOn(0, 0) 1
+                image() 0
                 run(1) 0
+                of(2, 4) -3
+                goesOn(0, 1) 0
+                back() 0
+                goesOn(0, 1) 0
+                run(1) 0
+                of(2, 2) 2
+                of(2, 3) 1
                 of(2, 4) 33
                 """);
         EdgeTest.edge("All is again as it was kept", NoteTests.FIVE_NOTES + """
