@@ -256,6 +256,24 @@ final class EdgeDown {
     }
 
     private static void namesOfMany() {
+        EdgeTest.edge("if it is UP and CAN'T, it is DOWN (1), and struck likewise", PaperTests.FOUR + """
+                gold(0, 90) 90
+                give(0, 4, 10) 90
+                give(4, 0, 10) 0
+                burn(0) 1
+                bill(1, 2, 10, 1) 0
+                sell(0) 10
+                give(2, 4, 10) 0
+                forge(2, 0) 1                # all that it has: a copy of a NUMBER that isn't OUT
+                run(2) 1
+                of(0, 3) 0
+                of(0, 9) 2
+                run(1) 1
+                down(2, 2) 0
+                down(2, 3) 1
+                look(2, 3) 1
+                count(11) 0
+                """);
         EdgeTest.edge("ASKED is the last of its NAMES that isn't the HOLDER, nor the DEBTOR", LAND + """
                 house(0, 0) 4
                 gold(3, 50) 50

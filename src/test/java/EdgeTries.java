@@ -10,6 +10,7 @@ final class EdgeTries {
         asBefore();
         plans();
         plansOfWeeks();
+        stoppedAheadOfDown();
         attempts();
         planPromise();
         judges();
@@ -335,6 +336,39 @@ final class EdgeTries {
                 judge() -1
                 set(6, 90) 180
                 judge() 6
+                """);
+    }
+
+    private static void stoppedAheadOfDown() {
+        EdgeTest.edge("one that leaves THE BANK not STOPPED comes ahead of others, then one with fewer HOUSES DOWN", """
+                6 x house(0, 0) 1..
+                gold(0, 1000) 1000
+                flow(100) 0
+                tell(1, 0, 20) -1
+                trade(6, 1, 100, 60) 0
+                trade(6, 2, 100, 60) 1
+                trade(6, 3, 100, 60) 2
+                trade(6, 4, 100, 60) 3
+                trade(6, 5, 100, 60) 4
+                mind(1, 9999, 0) 0
+                mind(2, 9999, 0) 0
+                mind(3, 9999, 0) 0
+                mind(4, 9999, 0) 0
+                mind(5, 9999, 0) 0
+                promise(1, 6, 80, 3) 0
+                promise(2, 6, 80, 3) 1
+                promise(3, 6, 80, 3) 2
+                promise(4, 6, 80, 3) 3
+                promise(5, 6, 80, 3) 4
+                attempt(0, 1, 2) 0           # each BILL is sold for 100; but the ships take all GOLD
+                attempt(0, 1, 4) 1
+                attempt(20, 1, 2) 5          # each for 58
+                attempt(20, 1, 4) 0
+                plan(656000, 1) 5            # 0, 20, 0, 20
+                row(0) 20
+                row(1) 960                   # each got 8 of it
+                row(2) 250
+                row(3) 5
                 """);
     }
 
